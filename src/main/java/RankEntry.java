@@ -70,10 +70,11 @@ public final class RankEntry {
     private final Ways ways;
 
     public RankEntry() {
-        bytes = new int[CODE_BYTES];
-        machine = new Machine(bytes);
-        twin = new Machine(bytes);
-        ways = new Ways(bytes);
+        int[] shared = new int[CODE_BYTES];
+        bytes = shared;
+        machine = new Machine(shared);
+        twin = new Machine(shared);
+        ways = new Ways(shared);
     }
 
     // ---- by hand ----
@@ -449,10 +450,12 @@ public final class RankEntry {
 
         /** Ranks, vectors, who is enabled and the split outlive a reset. */
         void restart() {
-            Arrays.fill(pending, false);
-            Arrays.fill(active, false);
-            Arrays.fill(held, false);
-            Arrays.fill(longest, NONE);
+            for (int i = 0; i < SOURCES; i++) {
+                pending[i] = false;
+                active[i] = false;
+                held[i] = false;
+                longest[i] = NONE;
+            }
             depth = 0;
             deepest = 0;
             base = 0;
@@ -460,15 +463,17 @@ public final class RankEntry {
             merged = 0;
         }
 
+        /** How long they wait is not copied: nothing that is foretold depends on it. */
         void copyFrom(Sources other) {
-            System.arraycopy(other.ranks, 0, ranks, 0, SOURCES);
-            System.arraycopy(other.vectors, 0, vectors, 0, SOURCES);
-            System.arraycopy(other.enabled, 0, enabled, 0, SOURCES);
-            System.arraycopy(other.pending, 0, pending, 0, SOURCES);
-            System.arraycopy(other.active, 0, active, 0, SOURCES);
-            System.arraycopy(other.held, 0, held, 0, SOURCES);
-            System.arraycopy(other.since, 0, since, 0, SOURCES);
-            System.arraycopy(other.nest, 0, nest, 0, SOURCES);
+            for (int i = 0; i < SOURCES; i++) {
+                ranks[i] = other.ranks[i];
+                vectors[i] = other.vectors[i];
+                enabled[i] = other.enabled[i];
+                pending[i] = other.pending[i];
+                active[i] = other.active[i];
+                held[i] = other.held[i];
+                nest[i] = other.nest[i];
+            }
             depth = other.depth;
             split = other.split;
             base = other.base;
@@ -485,11 +490,12 @@ public final class RankEntry {
 
         int limitBy(int bySplit, int byShut) {
             int least = byShut == 1 ? 0 : 256;
-            if (base != 0) {
-                least = Math.min(least, base >> bySplit);
+            if (base != 0 && base >> bySplit < least) {
+                least = base >> bySplit;
             }
             for (int i = 0; i < depth; i++) {
-                least = Math.min(least, ranks[nest[i]] >> bySplit);
+                int group = ranks[nest[i]] >> bySplit;
+                least = group < least ? group : least;
             }
             return least;
         }
@@ -836,6 +842,15 @@ public final class RankEntry {
             return pc == other.pc && z == other.z && n == other.n && sp == other.sp;
         }
 
+        /** Whether a cycle goes by without an instruction. */
+        boolean passes() {
+            if (stall > 0) {
+                stall--;
+                return true;
+            }
+            return asleep;
+        }
+
         int byteBehind(int by) {
             return bytes[pc + by & LAST_PLACE];
         }
@@ -1138,14 +1153,6 @@ public final class RankEntry {
             }
         }
 
-        private void running() {
-            if (core.stall > 0) {
-                core.stall--;
-            } else if (!core.asleep) {
-                perform(core.byteBehind(0), core.byteBehind(1), core.byteBehind(2));
-            }
-        }
-
         private void stacking() {
             if (steps == 0 && core.floats) {
                 fours = core.pushFours();
@@ -1251,7 +1258,13 @@ public final class RankEntry {
             sources.request(taker, clock);
         }
 
-        private void perform(int op, int x, int y) {
+        private void running() {
+            if (core.passes()) {
+                return;
+            }
+            int op = core.byteBehind(0);
+            int x = core.byteBehind(1);
+            int y = core.byteBehind(2);
             int fault = core.faultOf(op, x, y);
             if (op == 18 && sources.depth == 0 || op == 25 && sources.active[x % HARD]) {
                 fault = WRONG;
