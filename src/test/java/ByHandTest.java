@@ -370,7 +370,75 @@ public final class ByHandTest {
         Kit.due(12, "waited(4)", y.waited(4), 5);
     }
 
+    /** Machines that between them have everything that a reset sets back. */
+    private static RankEntry busy(int kind) {
+        RankEntry x = Kit.with(0, 20, 0, 24, 1, 0, 7, 29, 0, 3, 9, 0, 27, 0, 17, 200, 3, 1, 0, 16, 1, 5, 1, 0, 11, 0, 23);
+        Kit.serve(x, 3, 64, 64, 27, 0, 18);
+        Kit.serve(x, 4, 50, 80, 20, 1, 9, 18);
+        Kit.serve(x, 9, 80, 96, 6, 1, 1, 11, 0, 99);
+        x.split(2);
+        x.timer(50);
+        x.arrive(0, 900);
+        if (kind == 0) {
+            x.run(9);
+            return x;
+        }
+        Kit.put(x, 19, 0);
+        x.run(6);
+        x.pend(3);
+        x.pend(3);
+        x.run(4);
+        x.pend(4);
+        x.run(4);
+        if (kind == 1) {
+            return x;
+        }
+        x.run(60);
+        x.pend(3);
+        x.run(9);
+        x.pend(3);
+        x.run(40);
+        x.pend(3);
+        x.run(7);
+        if (kind == 2) {
+            return x;
+        }
+        x.hold(9, true);
+        Kit.put(x, 99, 255);
+        x.run(kind == 3 ? 19 : 60);
+        return x;
+    }
+
+    private static void everyReset() {
+        int[] most = new int[17];
+        boolean[] state = new boolean[16];
+        for (int kind = 0; kind < 5; kind++) {
+            RankEntry x = busy(kind);
+            for (int i = 0; i < 17; i++) {
+                most[i] = Math.max(most[i], x.count(i));
+            }
+            for (int i = 0; i < 14; i++) {
+                state[i] |= x.state(i) != (i == 11 || i == 13 ? -1 : i == 12 ? 256 : 0);
+            }
+            int were = x.count(11);
+            Kit.due(15, "reset()", x.reset(), were);
+            allAsAtFirst(15, x);
+            Kit.due(15, "split stays", x.state(14), 2);
+            Kit.due(15, "the timer counts anew", x.state(15), 50);
+            x.run(200);
+            x.reset();
+            allAsAtFirst(15, x);
+        }
+        for (int i = 0; i < 17; i++) {
+            Kit.due(15, "count(" + i + ") came up ahead of a reset", most[i] > 0, true);
+        }
+        for (int i : new int[] {0, 1, 2, 4, 5, 7, 8, 9, 10, 11, 12}) {
+            Kit.due(15, "state(" + i + ") came up ahead of a reset", state[i], true);
+        }
+    }
+
     private static void reset() {
+        everyReset();
         RankEntry x = Kit.with(0, 20, 0, 24, 1, 0, 7, 29, 0, 3, 9, 0, 27, 0, 17, 200, 14, 3, 11, 0, 17);
         Kit.serve(x, 3, 64, 64, 1, 1, 0, 6, 1, 1, 16, 1, 14, 2, 19, 11, 0, 75);
         Kit.serve(x, 9, 80, 64);

@@ -110,7 +110,7 @@ public final class CyclesTest {
     /** A handler's own registers are given back, those behind R3 are not. */
     private static void late() {
         RankEntry x = Kit.idle();
-        Kit.serve(x, 3, 60, 64, 1, 0, 9, 1, 5, 9, 18);
+        Kit.serve(x, 3, 60, 64, 1, 0, 9, 1, 4, 9, 18);
         Kit.serve(x, 2, 50, 80, 27, 5, 18);
         x.pend(3);
         x.run(5);
@@ -130,7 +130,7 @@ public final class CyclesTest {
         Kit.due(13, "state(0), unstacking", x.state(0), 3);
         x.run(6);
         Kit.due(13, "reg(0), given back", Kit.reg(x, 0), 0);
-        Kit.due(13, "reg(5), kept", Kit.reg(x, 5), 9);
+        Kit.due(13, "reg(4), kept", Kit.reg(x, 4), 9);
         RankEntry y = Kit.idle();
         Kit.serve(y, 3, 60, 64, 18);
         Kit.serve(y, 2, 60, 64, 18);
@@ -477,6 +477,19 @@ public final class CyclesTest {
         y.run(6);
         Kit.due(13, "nest(0): FULL is late", y.nest(0), 19);
         Kit.due(13, "count(3)", y.count(3), 1);
+        // a later frame, when there is room again, is whole
+        RankEntry a = filled(93, false);
+        Kit.serve(a, 2, 40, 64, 10, 7, 10, 7, 10, 7, 10, 7, 10, 7, 10, 7, 11, 0, 76);
+        a.enable(19, true);
+        a.pend(2);
+        a.run(6 + 7);
+        Kit.due(13, "state(5), six off", a.state(5), 90);
+        Kit.serve(a, 1, 10, 80, 11, 0, 80);
+        a.pend(1);
+        a.run(6);
+        Kit.due(13, "nest(1)", a.nest(1), 1);
+        Kit.due(13, "state(5), six more", a.state(5), 96);
+        Kit.due(13, "word(95), the mark", Kit.word(a, 95), 23040);
         RankEntry z = filled(90, false);
         Kit.serve(z, 2, 40, 64, 11, 0, 64);
         z.pend(2);
@@ -552,6 +565,14 @@ public final class CyclesTest {
         Kit.due(13, "the place 511: nothing is raised", x.count(7), 0);
         x.run(5);
         Kit.due(13, "state(4)", x.state(4), 511);
+        RankEntry w = spoiled(10, 7, 9, 0, 9, 0, 9, 0, 1, 6, 200, 9, 6, 1, 6, 7, 2, 7, 6, 9, 7);
+        Kit.due(13, "the mark 23047: nothing is raised", w.count(7), 0);
+        w.run(9);
+        Kit.due(13, "state(4)", w.state(4), 200);
+        Kit.due(13, "state(6)", w.state(6), 1);
+        Kit.due(13, "state(7)", w.state(7), 1);
+        Kit.due(13, "state(10)", w.state(10), 1);
+        Kit.due(13, "state(5)", w.state(5), 0);
         RankEntry y = spoiled(10, 7, 1, 6, 3, 2, 7, 6, 9, 7);
         Kit.due(13, "the mark 23043: nothing is raised", y.count(7), 0);
         y.run(5);

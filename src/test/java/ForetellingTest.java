@@ -91,6 +91,14 @@ public final class ForetellingTest {
         Kit.due(28, "escalates(19), rank 99", x.escalates(19), 19);
         x.pend(19);
         Kit.due(28, "escalates(19), pending already", x.escalates(19), 19);
+        RankEntry s = Kit.with(0, 17, 100, 11, 0, 2);
+        s.enable(18, true);
+        s.rank(18, 95);
+        s.split(3);
+        s.run(1);
+        Kit.due(28, "escalates(18), the group 11 of 12", s.escalates(18), 18);
+        s.rank(18, 96);
+        Kit.due(28, "escalates(18), the group 12 of 12", s.escalates(18), 20);
         RankEntry y = new RankEntry();
         y.enable(18, true);
         y.rank(18, 0);
@@ -125,6 +133,14 @@ public final class ForetellingTest {
         Kit.due(29, "soon(1), a cycle too late", x.soon(1), -1);
         x.run(1);
         Kit.due(29, "soon(1), a cycle on", x.soon(1), 300);
+        RankEntry l = Kit.idle();
+        Kit.serve(l, 1, 5, 64, 18);
+        Kit.serve(l, 2, 6, 64, 18);
+        l.pend(2);
+        l.run(5);
+        l.pend(1);
+        Kit.due(29, "soon(1), late", l.soon(1), 1);
+        Kit.due(29, "soon(2), by a chain", l.soon(2), 4);
         RankEntry y = new RankEntry();
         y.run(200);
         Kit.due(29, "soon(20), locked", y.soon(20), -1);
@@ -157,6 +173,14 @@ public final class ForetellingTest {
         Kit.due(30, "order(0, true), the first one can't", x.order(0, true), 2);
         Kit.due(30, "order(1, true), the first one can't", x.order(1, true), 3);
         Kit.due(30, "order(2, true), the first one can't", x.order(2, true), -1);
+        plainFirst();
+        RankEntry l = Kit.idle();
+        Kit.serve(l, 1, 50, 64, 18);
+        l.arrive(1, 296);
+        Kit.due(30, "order(0, false), a cycle too late", l.order(0, false), -1);
+        l.run(1);
+        Kit.due(30, "order(0, false), the last cycle", l.order(0, false), 1);
+        Kit.due(30, "order(0, true), the last cycle", l.order(0, true), 1);
         RankEntry y = Kit.idle();
         Kit.serve(y, 8, 50, 64, 18);
         y.hold(8, true);
@@ -175,6 +199,27 @@ public final class ForetellingTest {
         Kit.due(30, "order(0, true), chaining already", z.order(0, true), 2);
         Kit.due(30, "state(0)", z.state(0), 2);
         Kit.due(30, "quiet(true): 1 more, 1, 6", z.quiet(true), 8);
+    }
+
+    /** The plain machine keeps to the one that it stacks for, but only if that still can. */
+    private static void plainFirst() {
+        RankEntry x = Kit.with(0, 17, 100, 11, 0, 2);
+        x.split(1);
+        Kit.serve(x, 1, 60, 64, 18);
+        Kit.serve(x, 2, 50, 64, 18);
+        x.run(1);
+        x.pend(1);
+        x.run(3);
+        x.pend(2);
+        Kit.due(30, "order(0, true), the first", x.order(0, true), 1);
+        Kit.due(30, "order(0, false), the late one", x.order(0, false), 2);
+        x.rank(1, 99);
+        Kit.due(30, "order(0, true), the group 49 of 50", x.order(0, true), 1);
+        x.rank(1, 100);
+        Kit.due(30, "order(0, true), the group 50 of 50", x.order(0, true), 2);
+        x.rank(1, 60);
+        x.enable(1, false);
+        Kit.due(30, "order(0, true), not enabled", x.order(0, true), 2);
     }
 
     private static void quiet() {

@@ -88,6 +88,7 @@ public final class InstructionsTest {
         dueInt("7 / -2", on(7, -2, 5, 0, 1), -3);
         dueInt("-7 / 2", on(-7, 2, 5, 0, 1), -3);
         dueInt("1 / 2", on(1, 2, 5, 0, 1), 0);
+        dueInt("9 / 1", on(9, 1, 5, 0, 1), 9);
         dueInt("min / -1", on(min, -1, 5, 0, 1), min);
         dueInt("x and y beyond 7", on(12, 10, 6, 8, 249), 6);
         dueInt("5 xor 5", on(5, 5, 6, 0, 1), 0);
@@ -198,6 +199,14 @@ public final class InstructionsTest {
         Kit.due(13, "16: 255", x.state(8), 1);
         x.run(1);
         Kit.due(13, "16: 254", x.state(8), 0);
+        RankEntry c = Kit.with(0, 15, 18, 15, 35);
+        c.pend(0);
+        c.pend(17);
+        c.run(1);
+        Kit.due(13, "15: 18 is 0", c.source(0, 3), 0);
+        Kit.due(13, "15: 17 ahead", c.source(17, 3), 1);
+        c.run(1);
+        Kit.due(13, "15: 35 is 17", c.source(17, 3), 0);
         RankEntry y = Kit.with(0, 14, 3, 11, 0, 2);
         Kit.serve(y, 3, 10, 64, 18);
         y.run(1);

@@ -24,6 +24,7 @@ public final class SinglesTest {
             pair(a, finite((random.nextInt() & 0x807FFFFF) | Math.floorMod(254 - (a >>> 23 & 255), 255) << 23));
             pair(a, finite((random.nextInt() & 0x807FFFFF) | Math.floorMod(115 - (a >>> 23 & 255), 255) << 23));
         }
+        infinite();
         constants();
         ints(random);
         Kit.end("SinglesTest");
@@ -77,6 +78,26 @@ public final class SinglesTest {
             1, 7, value >>> 16 & 255, 7, reg, 8, 6, reg, 7,
             1, 7, value >>> 8 & 255, 7, reg, 8, 6, reg, 7,
             1, 7, value & 255, 7, reg, 8, 6, reg, 7};
+    }
+
+    /** Each of the four is doubled, or squared, till that would be infinite. */
+    private static void infinite() {
+        for (int i = 0; i < 4; i++) {
+            RankEntry x = Kit.with(0, 20, i, 16, 21, i, i, 11, 0, 3);
+            x.run(200);
+            x.run(1 + 3 * 127 - 200);
+            Kit.due(16, "21: F" + i + " is 2 to the power of 127", Kit.reg(x, 8 + i), 0x7F000000);
+            Kit.due(13, "21: no fault", x.count(7), 0);
+            x.run(1);
+            Kit.due(13, "21: infinite", x.count(7), 1);
+            Kit.due(16, "21: F" + i + " stays", Kit.reg(x, 8 + i), 0x7F000000);
+            RankEntry y = Kit.with(0, 20, i, 64, 22, i, i, 11, 0, 3);
+            y.run(1 + 4 * 5);
+            Kit.due(16, "22: F" + i + " is 2 to the power of 64", Kit.reg(y, 8 + i), 0x5F800000);
+            y.run(1);
+            Kit.due(13, "22: infinite", y.count(7), 1);
+            Kit.due(16, "22: F" + i + " stays", Kit.reg(y, 8 + i), 0x5F800000);
+        }
     }
 
     private static void constants() {

@@ -9,6 +9,7 @@ public final class WaysTest {
         open();
         pushes();
         longWays();
+        anew();
         others();
         room();
         Kit.end("WaysTest");
@@ -116,6 +117,30 @@ public final class WaysTest {
         Kit.put(y, 483, 18);
         Kit.due(34, "cost(1), 160 branches", y.cost(1), 162);
         Kit.due(35, "pushes(1)", y.pushes(1), 1);
+    }
+
+    /** What was measured ahead of a change, or on a way that was open, is not used again. */
+    private static void anew() {
+        RankEntry x = at64(1, 0, 0, 9, 0, 18);
+        Kit.due(34, "cost(3)", x.cost(3), 3);
+        Kit.put(x, 69, 5, 0, 0, 9, 0, 18);
+        Kit.due(34, "cost(3), loaded anew", x.cost(3), 8);
+        Kit.due(35, "pushes(3), loaded anew", x.pushes(3), 2);
+        Kit.put(x, 69, 19);
+        Kit.due(34, "cost(3), open now", x.cost(3), -1);
+        Kit.put(x, 69, 18);
+        x.vector(4, 67);
+        Kit.due(34, "cost(4), a part of it", x.cost(4), 2);
+        Kit.put(x, 100, 12, 0, 107, 1, 0, 0, 18, 19);
+        x.vector(5, 100);
+        x.vector(6, 103);
+        Kit.due(34, "cost(5), open", x.cost(5), -1);
+        Kit.due(34, "cost(6), a part that is not", x.cost(6), 2);
+        Kit.put(x, 110, 1, 0, 0, 11, 0, 110);
+        x.vector(7, 110);
+        Kit.due(34, "cost(7), open", x.cost(7), -1);
+        Kit.put(x, 113, 18);
+        Kit.due(34, "cost(7), an end now", x.cost(7), 2);
     }
 
     private static void others() {
