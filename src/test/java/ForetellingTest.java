@@ -395,7 +395,7 @@ public final class ForetellingTest {
         x.hold(9, true);
         for (int i = 0; i < 8; i++) {
             x.run(3);
-            String before = seen(x);
+            String before = Kit.seen(x);
             x.soon(1);
             x.order(3, false);
             x.order(3, true);
@@ -408,27 +408,7 @@ public final class ForetellingTest {
             x.cost(1);
             x.pushes(1);
             x.room(true);
-            Kit.due(30, "nothing is changed by what is foretold", seen(x).equals(before), true);
+            Kit.due(30, "nothing is changed by what is foretold", Kit.seen(x).equals(before), true);
         }
-    }
-
-    private static String seen(RankEntry x) {
-        StringBuilder all = new StringBuilder();
-        for (int i = 0; i < 17; i++) {
-            all.append(x.state(i)).append(' ').append(x.count(i)).append(' ');
-        }
-        for (int i = 0; i < 12; i++) {
-            all.append(Kit.reg(x, i)).append(' ');
-        }
-        for (int i = 0; i < 96; i++) {
-            all.append(Kit.word(x, i)).append(' ').append(Kit.out(x, i)).append(' ');
-        }
-        for (int i = 0; i < 21; i++) {
-            for (int k = 0; k < 8; k++) {
-                all.append(x.source(i, k)).append(' ').append(Kit.event(x, i, k)).append(' ');
-            }
-            all.append(x.nest(i)).append(' ').append(x.waited(i)).append(' ').append(Kit.data(x, i));
-        }
-        return all.toString();
     }
 }

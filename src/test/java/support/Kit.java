@@ -103,6 +103,90 @@ final class Kit {
         }
     }
 
+    /** One byte of code, behind 511 comes 0. */
+    static void putByte(RankEntry x, int at, int value) {
+        put(x, at & 511, value);
+    }
+
+    /** One instruction is put where the machine is, and all its cycles are done. */
+    static void tries(RankEntry x, int... bytes) {
+        int pc = x.state(4);
+        for (int i = 0; i < bytes.length; i++) {
+            putByte(x, pc + i, bytes[i]);
+        }
+        x.run(1);
+        for (int i = 0; i < 9 && x.state(2) > 0; i++) {
+            x.run(1);
+        }
+    }
+
+    /** As tries; a fault, or a source that breaks in, is counted as wrong. */
+    static void does(RankEntry x, int... bytes) {
+        int before = x.count(10);
+        tries(x, bytes);
+        due(13, "the instruction " + bytes[0] + " is done", x.count(10), before + 1);
+    }
+
+    /** Makes a number in R7 (R6 helps; Z and N change). */
+    static void makes(RankEntry x, int value) {
+        does(x, 1, 7, value >>> 24);
+        for (int by = 16; by >= 0; by -= 8) {
+            does(x, 7, 7, 8);
+            does(x, 1, 6, value >>> by & 255);
+            does(x, 6, 7, 6);
+        }
+    }
+
+    /** Puts any word on the stack. */
+    static void pushes(RankEntry x, int value) {
+        makes(x, value);
+        does(x, 9, 7);
+    }
+
+    /** Pops or pushes (words of 0) till so many words lie on the stack. */
+    static void levels(RankEntry x, int words) {
+        for (int i = 0; i < 96 && x.state(5) > words; i++) {
+            does(x, 10, 7);
+        }
+        does(x, 1, 7, 0);
+        for (int i = 0; i < 96 && x.state(5) < words; i++) {
+            does(x, 9, 7);
+        }
+    }
+
+    /** Numbers just outside of a range, far outside, and such as wrap into it. */
+    static int[] outside(int least, int most) {
+        long[] all = {least - 1L, least - 2L, most + 1L, most + 2L, least - 256L, most + 256L, least - 512L, most + 512L,
+            least - 65536L, most + 65536L, Integer.MIN_VALUE, Integer.MIN_VALUE + 1L, Integer.MIN_VALUE + (long) least,
+            Integer.MIN_VALUE + (long) most, Integer.MAX_VALUE, Integer.MAX_VALUE - 1L, Integer.MAX_VALUE - 7L};
+        return java.util.Arrays.stream(all).filter(n -> n >= Integer.MIN_VALUE && (n < least || n > most))
+            .mapToInt(n -> (int) n).distinct().toArray();
+    }
+
+    /** All that can be asked without foretelling, as a text. */
+    static String seen(RankEntry x) {
+        StringBuilder all = new StringBuilder();
+        for (int i = 0; i < 512; i++) {
+            all.append(x.code(i)).append(' ');
+        }
+        for (int i = 0; i < 17; i++) {
+            all.append(x.state(i)).append(' ').append(x.count(i)).append(' ');
+        }
+        for (int i = 0; i < 12; i++) {
+            all.append(reg(x, i)).append(' ');
+        }
+        for (int i = 0; i < 96; i++) {
+            all.append(word(x, i)).append(' ').append(out(x, i)).append(' ').append(data(x, i)).append(' ');
+        }
+        for (int i = 0; i < 24; i++) {
+            for (int k = 0; k < 8; k++) {
+                all.append(x.source(i, k)).append(' ').append(event(x, i, k)).append(' ');
+            }
+            all.append(x.nest(i)).append(' ').append(x.waited(i)).append(' ');
+        }
+        return all.toString();
+    }
+
     /** An event's four fields, compared at once. */
     static void dueEvent(int promise, RankEntry x, int i, int kind, int source, int clock, int detail) {
         int[] want = {kind, source, clock, detail};
