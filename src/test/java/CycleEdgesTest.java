@@ -15,7 +15,9 @@ public final class CycleEdgesTest {
         roomInStacking();
         stackedForNoneAndFull();
         lateOnes();
+        raisedAtTheSixthStep();
         waitedFromTheLastTime();
+        cameAsItReturned();
         chainedOnes();
         abandonedAtEachStep();
         framesTakenBack();
@@ -391,6 +393,8 @@ public final class CycleEdgesTest {
             Kit.due(13, "nest(0), one that comes at the step " + (step + 1), x.nest(0), step < 6 ? 2 : 3);
             Kit.due(13, "count(3), at the step " + (step + 1), x.count(3), step < 6 ? 1 : 0);
             Kit.due(13, "event(0, 3)", Kit.event(x, 0, 3), step < 6 ? 5 - step : 6);
+            Kit.due(25, "waited(2)", x.waited(2), step < 6 ? 5 - step : -1);
+            Kit.due(25, "waited(3)", x.waited(3), step < 6 ? -1 : 6);
         }
         RankEntry y = Kit.idle();
         Kit.serve(y, 3, 90, 400, 11, 1, 144);
@@ -415,6 +419,45 @@ public final class CycleEdgesTest {
         Kit.due(13, "nest(0), the first has come again", z.nest(0), 3);
         Kit.due(13, "count(3)", z.count(3), 0);
         Kit.dueEvent(24, z, 0, 0, 3, 6, 3);
+    }
+
+    /** The sixth word has no room: FULL is RAISED, and may BEGIN in the same cycle, having WAITED 0. */
+    private static void raisedAtTheSixthStep() {
+        for (int rank : new int[] {10, 200}) {
+            RankEntry x = new RankEntry();
+            Kit.levels(x, 91);
+            Kit.serve(x, 3, 90, 400, 18);
+            Kit.serve(x, 19, rank, 400);
+            int pc = x.state(4);
+            int clock = x.count(0);
+            x.pend(3);
+            x.run(5);
+            Kit.due(13, "count(7), five have room", x.count(7), 0);
+            x.run(1);
+            Kit.dueEvent(24, x, 1, 3, 19, clock + 6, pc);
+            Kit.dueEvent(24, x, 0, 0, rank == 10 ? 19 : 3, clock + 6, rank == 10 ? 0 : 6);
+            Kit.due(25, "waited(19)", x.waited(19), rank == 10 ? 0 : -1);
+            Kit.due(13, "count(3)", x.count(3), rank == 10 ? 1 : 0);
+        }
+    }
+
+    /** "the PHASE is CHAINING, if there is a NEXT, else UNSTACKING": about the cycle of a RETURN. */
+    private static void cameAsItReturned() {
+        for (int at = 6; at <= 8; at++) {
+            RankEntry x = Kit.idle();
+            Kit.serve(x, 3, 90, 400, 18);
+            Kit.serve(x, 4, 95, 410, 11, 1, 154);
+            x.pend(3);
+            x.arrive(4, at);
+            x.run(7);
+            Kit.due(13, "state(0), it came at " + at, x.state(0), at < 8 ? 2 : 3);
+            Kit.due(13, "state(1)", x.state(1), 0);
+            x.run(1);
+            Kit.due(13, "state(0)", x.state(0), 2);
+            Kit.due(13, "count(4)", x.count(4), at < 8 ? 0 : 1);
+            x.run(1);
+            Kit.dueEvent(24, x, 0, 1, 4, 9, 9 - at);
+        }
     }
 
     /** "It WAITED the CLOCK less the CLOCK as it BECAME PENDING": the last time, if it was taken back meanwhile. */
