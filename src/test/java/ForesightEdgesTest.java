@@ -505,6 +505,21 @@ public final class ForesightEdgesTest {
         Kit.put(y, 511, 18);
         Kit.due(35, "pushes(3), 0 at least", y.pushes(3), 0);
         Kit.due(34, "cost(3)", y.cost(3), 1);
+        // nearly every byte is a place: 9 from each to the next but one, two ways that never meet
+        RankEntry z = new RankEntry();
+        int[] code = new int[512];
+        java.util.Arrays.fill(code, 9);
+        code[0] = 12;
+        code[1] = 0;
+        code[2] = 4;
+        code[510] = 18;
+        code[511] = 18;
+        Kit.put(z, 0, code);
+        Kit.due(34, "cost(0), 510 places", z.cost(0), 1 + 254 + 1);
+        Kit.due(35, "pushes(0), 510 places", z.pushes(0), 254);
+        code[511] = 9;
+        Kit.put(z, 0, code);
+        Kit.due(34, "cost(0), one of them comes to x of 12", z.cost(0), -1);
     }
 
     /** "It is OPEN, if any WAY comes to a place twice, to 19, to a byte that is no INSTRUCTION" */

@@ -166,6 +166,40 @@ public final class InstructionEdgesTest {
             Kit.does(x, 8, (i + 1) % 8 + 8, i + 16);
             Kit.due(13, "8: R" + (i + 1) % 8, Kit.reg(x, (i + 1) % 8), 255);
         }
+        eachRegister();
+    }
+
+    /** Every instruction with every register, by its own number, from R0 = 3, R1 = 10 .. on. */
+    private static void eachRegister() {
+        for (int i = 0; i < 8; i++) {
+            int own = 3 + 7 * i;
+            for (int k = 0; k < 8; k++) {
+                int other = 3 + 7 * k;
+                int[] want = {own + other, own - other, own * other, own / other, own ^ other, own << other % 32, other};
+                for (int op = 2; op <= 8; op++) {
+                    RankEntry x = prepared();
+                    Kit.does(x, op, i, op == 7 ? other % 32 : k);
+                    Kit.due(13, op + " on R" + i + ", R" + k, Kit.reg(x, i), want[op - 2]);
+                }
+            }
+            RankEntry x = prepared();
+            Kit.does(x, 9, i);
+            Kit.due(13, "9: R" + i, Kit.word(x, 2), own);
+            Kit.does(x, 27, i);
+            Kit.due(13, "27: R" + i, Kit.out(x, 0), own);
+            Kit.does(x, 29, i, 4);
+            Kit.due(13, "29: R" + i, Kit.data(x, 4), own);
+            Kit.does(x, 24, 2, i);
+            Kit.due(13, "24: R" + i, Kit.reg(x, 10), Float.floatToIntBits(own));
+            Kit.does(x, 25, 6, i);
+            Kit.due(13, "25: R" + i, x.source(6, 0), own);
+            Kit.does(x, 28, i, 11);
+            Kit.due(13, "28: R" + i, Kit.reg(x, i), 11);
+            Kit.does(x, 23, i, 3);
+            Kit.due(13, "23: R" + i, Kit.reg(x, i), 2);
+            Kit.does(x, 10, i);
+            Kit.due(13, "10: R" + i, Kit.reg(x, i), own);
+        }
     }
 
     /** "R, F by x, y modulo 8, modulo 4": F. */
